@@ -320,21 +320,17 @@ public final class BridgeBells {
             if (!travellers.has(traveller)) {
                 return;
             }
-            boolean barge = travellers.isBarge(traveller);
+            boolean barge = travellers.barge[traveller] == 1;
             if (angle == (barge ? UP : DOWN)) {
-                beginToPass(traveller);
+                passing = traveller;
+                toGo = travellers.needs[traveller];
+                latestWasBarge = barge;
+                travellers.endWait(traveller, PASSES, minute);
             } else if (barge) {
                 angle = Math.min(UP, angle + speedTowards(true));
             } else {
                 angle = Math.max(DOWN, angle - speedTowards(false));
             }
-        }
-
-        private void beginToPass(int traveller) {
-            passing = traveller;
-            toGo = travellers.needs[traveller];
-            latestWasBarge = travellers.isBarge(traveller);
-            travellers.endWait(traveller, PASSES, minute);
         }
 
         private void goOnPassing() {
@@ -345,7 +341,6 @@ public final class BridgeBells {
             if (toGo <= 0) {
                 travellers.endPassage(passing, minute);
                 passing = NOBODY;
-                toGo = 0;
             }
         }
 
@@ -445,10 +440,6 @@ public final class BridgeBells {
             return traveller >= 0 && traveller < number;
         }
 
-        boolean isBarge(int traveller) {
-            return barge[traveller] == 1;
-        }
-
         /** Adds one that waits, where there is room for it, and returns its number. */
         int add(boolean isBarge, int minutes, int minute) {
             int added = number;
@@ -504,7 +495,7 @@ public final class BridgeBells {
                 if (state[traveller] != WAITS) {
                     continue;
                 }
-                if (isBarge(traveller)) {
+                if (barge[traveller] == 1) {
                     bargesWaiting++;
                     firstBarge = traveller;
                 } else {

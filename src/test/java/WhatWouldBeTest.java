@@ -38,6 +38,22 @@ public final class WhatWouldBeTest {
         b.ring(0);
         Check.same("12: one that went away", b.when(1), -1);
         Check.same("12: the bridge stays down for the third", b.when(2), 1);
+
+        BridgeBells long6 = new BridgeBells();
+        long6.come(false, 6);
+        long6.come(false, 2);
+        long6.pass(2);
+        Check.same("12: with the minutes that it has to go", long6.when(0), 4);
+        Check.same("12: behind it", long6.when(1), 6);
+
+        BridgeBells turns = new BridgeBells();
+        turns.come(true, 1);
+        turns.pass(21);
+        turns.come(true, 1);
+        turns.come(false, 1);
+        Check.same("12: the next barge", turns.when(1), 1);
+        turns.ring(3);
+        Check.same("12: by turns behind the cart", turns.when(1), 15 + 1 + 20 + 1);
     }
 
     /** One that passes behind 400 minutes to the minute, and before that behind more. */
@@ -82,6 +98,9 @@ public final class WhatWouldBeTest {
         foreseen(b, 58, 3, 60, 0, 2);
         foreseen(b, 59, 3, 60, 0, 5);
         foreseen(b, 240, 3, 60, 0, 6);
+        b.pass(22);
+        foreseen(b, 1, 0, 1, 60, 2);
+        foreseen(b, 3, 1, 3, 56, 2);
         for (int what = 0; what < 4; what++) {
             int asked = what;
             Check.unchanged("13: foresee(240, " + what + ")", b, () -> b.foresee(240, asked));
@@ -118,28 +137,22 @@ public final class WhatWouldBeTest {
         Check.same("14: the barge first while the bridge is up", c.bestCode(10), 1);
 
         BridgeBells d = new BridgeBells();
+        d.come(true, 1);
+        d.pass(20);
+        d.leave(0);
         d.come(false, 1);
-        d.pass(1);
         d.come(true, 1);
         d.come(true, 1);
-        d.pass(21);
-        for (int t = 0; t < 5; t++) {
-            d.come(false, 1);
+        int[] waits = new int[4];
+        for (int code = 0; code < 4; code++) {
+            d.ring(code);
+            waits[code] = d.foresee(60, 1);
         }
-        Check.same("14: as the slow one says", d.bestCode(60), bestOfSlow());
-    }
-
-    private static int bestOfSlow() {
-        SlowBridge s = new SlowBridge();
-        s.come(false, 1);
-        s.pass(1);
-        s.come(true, 1);
-        s.come(true, 1);
-        s.pass(21);
-        for (int t = 0; t < 5; t++) {
-            s.come(false, 1);
-        }
-        return s.bestCode(60);
+        Check.same("14: by number", waits[0], 15 + 36 + 37);
+        Check.same("14: barges first", waits[1], 17 + 0 + 1);
+        Check.same("14: carts first", waits[2], 15 + 36 + 37);
+        Check.same("14: by turns", waits[3], 16 + 0 + 37);
+        Check.same("14: the fewest, not the last that are fewer than the first", d.bestCode(60), 1);
     }
 
     private static void promise15() {
