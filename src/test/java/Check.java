@@ -1,3 +1,6 @@
+import java.util.List;
+import java.util.function.Consumer;
+
 /** Compares answers with those that are due, and counts the wrong ones. */
 final class Check {
     private static int wrong = 0;
@@ -36,6 +39,47 @@ final class Check {
         long before = allThatCanBeAsked(bells);
         call.run();
         same(what + ": what can be asked behind it", allThatCanBeAsked(bells), before);
+    }
+
+    /** The call throws exactly this, and leaves everything as it would be without the call. */
+    static void refusedIn(Position position, String what, Class<?> due, Consumer<BridgeBells> call) {
+        BridgeBells bells = position.make();
+        String name = what + " in " + position;
+        Class<?> thrown = thrownBy(bells, call);
+        if (thrown != due) {
+            tellWrong(name + " throws " + thrown + ", due is " + due);
+        }
+        sameAnswers(name, bells, position.make());
+    }
+
+    /** The call answers, and leaves everything as it would be without the call. */
+    static void unchangedIn(Position position, String what, Consumer<BridgeBells> call) {
+        refusedIn(position, what, null, call);
+    }
+
+    static void sameAnswers(String what, BridgeBells got, BridgeBells due) {
+        List<String> answers = Answers.of(got);
+        List<String> dueAnswers = Answers.of(due);
+        if (answers.size() != dueAnswers.size()) {
+            tellWrong(what + ": other travellers are there behind it");
+            return;
+        }
+        for (int i = 0; i < answers.size(); i++) {
+            if (!answers.get(i).equals(dueAnswers.get(i))) {
+                tellWrong(what + ": behind it " + answers.get(i) + ", without it " + dueAnswers.get(i));
+                return;
+            }
+        }
+    }
+
+    /** The class of what the call throws, null for nothing. */
+    static Class<?> thrownBy(BridgeBells bells, Consumer<BridgeBells> call) {
+        try {
+            call.accept(bells);
+            return null;
+        } catch (RuntimeException e) {
+            return e.getClass();
+        }
     }
 
     /** Ends the test: with exit code 1 if an answer was wrong. */
