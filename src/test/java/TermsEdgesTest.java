@@ -355,11 +355,14 @@ public final class TermsEdgesTest {
         for (int traveller = 0; traveller < 39; traveller++) {
             b.come(false, 1);
         }
-        b.come(true, 1);
+        b.come(true, 2);
         codes("the barge is the last of 40", b, 0, 39, 0, 39, -1);
         b.ring(1);
         b.pass(21);
-        Check.same("the last has passed", b.traveller(39, 6), 20);
+        Check.same("the last passes", b.count(10), 39);
+        Check.same("it has a minute to go", b.traveller(39, 5), 1);
+        b.pass(1);
+        Check.same("the last has passed", b.traveller(39, 6), 21);
         codes("the carts are left", b, 0, 0, 0, 0, -1);
     }
 
